@@ -912,13 +912,14 @@ public final class WordlessSigns {
                     stack[top - 1] = -stack[top - 1];
                 } else if (top > 1) {
                     top--;
-                    stack[top - 1] = join(code - FIRST_OPERATOR, stack[top - 1], stack[top]);
+                    long joined = join(code - FIRST_OPERATOR, stack[top - 1], stack[top]);
+                    stack[top - 1] = (int) Math.max(-GREATEST, Math.min(GREATEST, joined));
                 }
             }
             return stack[0];
         }
 
-        private static int join(int operator, int left, int right) {
+        private static long join(int operator, long left, long right) {
             switch (operator) {
                 case T_OR:
                     return left | right;
@@ -937,19 +938,12 @@ public final class WordlessSigns {
                 case T_UNLIKE:
                     return left != right ? 1 : 0;
                 case T_PLUS:
-                    return clip(left + right);
+                    return left + right;
                 case T_MINUS:
-                    return clip(left - right);
+                    return left - right;
                 default:
-                    return clip((long) left * right);
+                    return left * right;
             }
-        }
-
-        private static int clip(long number) {
-            if (number > GREATEST) {
-                return GREATEST;
-            }
-            return number < -GREATEST ? -GREATEST : (int) number;
         }
     }
 

@@ -22,7 +22,7 @@ public final class AgainstPlainModel {
     }
 
     public static void main(String[] args) {
-        int runs = args.length > 0 ? Integer.parseInt(args[0]) : 120;
+        int runs = args.length > 0 ? Integer.parseInt(args[0]) : 300;
         int wrong = 0;
         for (int seed = 0; seed < runs; seed++) {
             AgainstPlainModel test = new AgainstPlainModel(seed);
@@ -32,7 +32,7 @@ public final class AgainstPlainModel {
                 System.out.println("seed " + seed + ": " + test.log.get(test.log.size() - 1));
             }
         }
-        for (int seed = 0; seed < 40 * runs; seed++) {
+        for (int seed = 0; seed < 4 * runs; seed++) {
             AgainstPlainModel test = new AgainstPlainModel(seed);
             test.texts();
             if (test.failed) {
@@ -62,7 +62,7 @@ public final class AgainstPlainModel {
 
     /** Mostly from lo to hi; now and then beside it. */
     private int near(int lo, int hi) {
-        int w = of(40);
+        int w = of(150);
         if (w == 0) {
             return lo - 1;
         }
@@ -91,22 +91,31 @@ public final class AgainstPlainModel {
     private void run(int seed) {
         int kinds = 1 + of(5);
         int mostThings = 1 + of(seed % 10 == 0 ? 12 : 6);
-        for (int i = 0; i < 1 + of(6); i++) {
+        int drawings = 1 + of(7);
+        for (int i = 0; i < drawings; i++) {
             check("look(false)", signs.look(false), plain.look(false));
         }
         for (int i = 0; i < mostThings; i++) {
             check("look(true)", signs.look(true), plain.look(true));
         }
-        for (int i = 0; i < 30; i++) {
-            addPart(kinds);
+        for (int t = 12; t < 12 + mostThings; t++) {
+            for (int i = of(4); i >= 0; i--) {
+                put(t, of(kinds), of(9), of(4));
+            }
+        }
+        for (int d = 0; d < drawings; d++) {
+            drawLike(d, 12 + of(mostThings), kinds);
         }
         for (int land = 0; land < 6; land++) {
             setLand(land);
         }
+        if (of(10) > 0) {
+            check("image()", signs.image(), plain.image());
+        }
         while (calls < CALLS && !failed) {
             int which = of(100);
             if (which < 30) {
-                change(of(17), kinds);
+                change(of(19), kinds);
             } else if (which < 34) {
                 text();
             } else if (which < 88) {
@@ -117,17 +126,30 @@ public final class AgainstPlainModel {
         }
     }
 
+    /** A drawing of a thing with a part or two that the thing has otherwise, so that readings are often right. */
+    private void drawLike(int d, int t, int kinds) {
+        for (PlainSigns.Part p : plain.at(t).parts) {
+            put(d, p.kind(), of(3) == 0 ? of(9) : p.place(), of(4) == 0 ? of(4) : p.way());
+        }
+        if (of(3) == 0) {
+            put(d, of(kinds), of(9), of(4));
+        }
+        boolean not = of(5) == 0;
+        check("means(" + d + ", " + t + ", " + not + ")", bit(signs.means(d, t, not)), bit(plain.means(d, t, not)));
+    }
+
     private void addPart(int kinds) {
-        int l = anyLook();
-        int k = of(30) == 0 ? near(0, 4) : of(kinds);
-        int p = near(0, 8);
-        int w = near(0, 3);
+        put(anyLook(), of(30) == 0 ? near(0, 4) : of(kinds), near(0, 8), near(0, 3));
+    }
+
+    private void put(int l, int k, int p, int w) {
         check("part(" + l + ", " + k + ", " + p + ", " + w + ")", signs.part(l, k, p, w), plain.part(l, k, p, w));
     }
 
     private void setLand(int land) {
         int share = of(4) == 0 ? 0 : near(0, 99);
-        int known = of(10) == 0 ? 4095 : near(0, (1 << plain.a.things.size()) - 1);
+        int all = (1 << plain.a.things.size()) - 1;
+        int known = of(4) == 0 ? all : of(20) == 0 ? 4095 : near(0, all) | of(all + 1);
         check("land(" + land + ", " + share + ", " + known + ")", bit(signs.land(land, share, known)),
                 bit(plain.land(land, share, known)));
     }
@@ -167,7 +189,7 @@ public final class AgainstPlainModel {
                 check("lean(" + site + ", " + t + ", " + v + ")", bit(signs.lean(site, t, v)), bit(plain.lean(site, t, v)));
             }
             case 9 -> {
-                int m = near(0, of(6) == 0 ? 999 : 20);
+                int m = near(0, of(6) == 0 ? 999 : 30);
                 int h = near(0, of(4) == 0 ? 99 : 12);
                 int e = near(1, 1000);
                 int f = near(0, of(2) == 0 ? 1000 : 100);
@@ -178,7 +200,7 @@ public final class AgainstPlainModel {
                 int g = near(0, 5);
                 check("group(" + t + ", " + g + ")", bit(signs.group(t, g)), bit(plain.group(t, g)));
             }
-            case 11 -> check("hang(" + d + ")", signs.hang(d), plain.hang(d));
+            case 16 -> check("hang(" + d + ")", signs.hang(d), plain.hang(d));
             case 12 -> {
                 int slot = near(0, 5);
                 check("candidate(" + slot + ", " + d + ")", signs.candidate(slot, d), plain.candidate(slot, d));
@@ -188,6 +210,15 @@ public final class AgainstPlainModel {
                 int p = near(0, 8);
                 int w = near(0, 3);
                 check("stock(" + k + ", " + p + ", " + w + ")", signs.stock(k, p, w), plain.stock(k, p, w));
+            }
+            case 11 -> {
+                int t2 = near(12, Math.max(12, 11 + plain.a.things.size()));
+                PlainSigns.Look like = plain.at(t2);
+                if (like != null && !like.parts.isEmpty()) {
+                    PlainSigns.Part p = like.parts.get(of(like.parts.size()));
+                    check("stock" + p, signs.stock(p.kind(), p.place(), p.way()),
+                            plain.stock(p.kind(), p.place(), p.way()));
+                }
             }
             case 14 -> check("teach(" + d + ", " + land + ")", signs.teach(d, land), plain.teach(d, land));
             case 15 -> {
