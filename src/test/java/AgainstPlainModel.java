@@ -90,8 +90,9 @@ public final class AgainstPlainModel {
 
     private void run(int seed) {
         int kinds = 1 + of(5);
-        int mostThings = 1 + of(seed % 10 == 0 ? 12 : 6);
-        int drawings = 1 + of(7);
+        boolean full = seed % 100 == 7;
+        int mostThings = full ? 12 : 1 + of(seed % 10 == 0 ? 12 : 6);
+        int drawings = full ? 12 : 1 + of(7);
         for (int i = 0; i < drawings; i++) {
             check("look(false)", signs.look(false), plain.look(false));
         }
@@ -99,7 +100,7 @@ public final class AgainstPlainModel {
             check("look(true)", signs.look(true), plain.look(true));
         }
         for (int t = 12; t < 12 + mostThings; t++) {
-            for (int i = of(4); i >= 0; i--) {
+            for (int i = of(full ? 6 : 4); i >= 0; i--) {
                 put(t, of(kinds), of(9), of(4));
             }
         }

@@ -413,6 +413,16 @@ public final class PromiseTests {
         fault("not Lines=1;", 1, 4);
         fault("not line=1;", 1, 4);
         fault("not liness=1;", 1, 4);
+        fault("not linesa=1;", 1, 4);
+        fault("not linesz=1;", 1, 4);
+        fault("not linesA=1;", 1, 4);
+        fault("not linesZ=1;", 1, 4);
+        fault("not lines@=1;", 1, 9);
+        fault("not lines[=1;", 1, 9);
+        fault("not lines`=1;", 1, 9);
+        fault("not lines{=1;", 1, 9);
+        fault("not lines=1/;", 1, 11);
+        fault("not lines=1:;", 1, 11);
         fault("not not=1;", 1, 4);
         fault("not harm=1;", 1, 4);
         fault("not 1 = 2 harm 1;", 1, 10);
@@ -639,6 +649,21 @@ public final class PromiseTests {
         }
         readBy(x, "must lines=1 and arrows=1 or circles=1 and bars=1;");
         due("of like ones with as many parts the lowest set", x.made(0, 0, 0), 6);
+        x = told(1, 1);
+        x.part(12, 0, 0, 0);
+        x.part(12, 1, 0, 0);
+        x.means(0, 12, false);
+        x.land(5, 1, 1);
+        x.stock(1, 0, 0);
+        x.stock(0, 0, 0);
+        x.rules(10, 4, 400, 100);
+        due("nothing is 10 far, at the limit", x.made(0, 0, 0), 0);
+        x.rules(9, 4, 400, 100);
+        due("beyond it", x.made(0, 0, 0), 1);
+        x.rules(0, 4, 400, 100);
+        due("both", x.made(0, 0, 0), 3);
+        x.stock(1, 1, 1);
+        due("the same with more to choose of", x.made(0, 0, 0), 3);
     }
 
     private static void setsAndChoices() {
@@ -818,6 +843,14 @@ public final class PromiseTests {
         x.rules(12, 0, 1000, 100);
         x.teach(0, 1);
         due("memory counts", x.order(0, NONE), 1);
+        x.rules(12, 0, 500, 100);
+        x.teach(1, 1);
+        due("memory of 500 counts", x.order(0, NONE), 2);
+        x.rules(12, 0, 499, 100);
+        x.land(2, 10, 15);
+        due("read as they are", x.order(0, NONE), 22);
+        readBy(x, "not parts=1;");
+        due("read as not", x.order(0, NONE), 2);
         for (int v : WRONG) {
             due("wrong ones", x.order(v, 0), NONE);
             due("wrong ones", x.among(v, 0, 0), NONE);
@@ -1042,6 +1075,9 @@ public final class PromiseTests {
         x.rules(3, 4, 400, 100);
         due("12 alone is within it", x.minds(0, 0, NONE), 4);
         due("12 alone is within it", x.minds(0, 0, 3), 6);
+        x.rules(4, 4, 400, 100);
+        due("at the limit is within it", x.minds(0, 0, NONE), 1);
+        x.rules(3, 4, 400, 100);
         x.look(true);
         due("a thing told later counts", x.minds(0, 0, NONE), 8);
         due("others", x.minds(6, 0, NONE), NONE);
@@ -1136,6 +1172,51 @@ public final class PromiseTests {
         due("others", x.mended(0, 1, 1, -1), NONE);
     }
 
+    /** All that there may be, so that the last of each is used. */
+    private static void full() {
+        promise = 47;
+        WordlessSigns x = told(12, 12);
+        for (int i = 0; i < 12; i++) {
+            for (int p = 0; p < 6; p++) {
+                x.part(i, p % 5, i % 9, i % 4);
+                x.part(12 + i, p % 5, i % 9, i % 4);
+            }
+            x.part(i, 4, (i + 4) % 9, i % 4);
+            x.part(12 + i, 4, (i + 4) % 9, i % 4);
+            x.means(i, 12 + i, false);
+            x.hang(i);
+            x.stock(i % 5, 2, i % 4);
+            x.candidate(i % 6, i);
+        }
+        for (int land = 0; land < 6; land++) {
+            x.land(land, 99, 4095);
+        }
+        due("parts of the last drawing", x.about(31), 6);
+        due("parts of the last thing", x.about(43), 6);
+        due("behind the last", x.about(44), NONE);
+        due("the list", x.about(5), 10);
+        due("the row", x.about(6), 8);
+        due("taken", x.taken(11, 5, 5), 23);
+        due("among", x.among(7, 5, 5), 19);
+        due("all right", x.odds(11, 5, 1), 594);
+        due("least of all", x.least(4095, 0) > 0, true);
+        due("anybody with all", x.anybody(11, 5, 12, 0), 0);
+        due("anybody with one", x.anybody(11, 5, 1, 0), 1);
+        due("best", x.best(4095, 5, 12), 0);
+        for (int i = 0; i < 60; i++) {
+            x.answer(5, 5, 11, 23);
+        }
+        due("minds", x.minds(5, 0, NONE), 2048);
+        due("the last mind", x.minds(5, 0, 2047), 4095);
+        due("knows", x.knows(5, 0, 23), 2);
+        due("knows", x.knows(5, 0, 22), 1);
+        due("parts", x.parts(5, 5, 1) > 1, true);
+        due("worn", x.worn(11, 5, 6, 1), 63);
+        due("mended", x.mended(11, 10, 1, 0), 0);
+        due("made", x.made(11, 5, 0) >= 0, true);
+        due("choice", x.choice(5) == 5 || x.choice(5) == 11, true);
+    }
+
     private static void imageAndAbout() {
         promise = 45;
         WordlessSigns x = corners(2);
@@ -1193,6 +1274,25 @@ public final class PromiseTests {
         due("memory and TEACH", x.teach(0, 0), 800);
         due("minds", x.minds(0, 7, NONE), 2);
         due("candidates", x.choice(2), NONE);
+        x.unhang();
+        x.hang(1);
+        x.group(12, 3);
+        x.back();
+        due("the row as it was", x.among(0, 0, 0), 12);
+        x.unhang();
+        x.hang(0);
+        x.hang(1);
+        x.group(13, 1);
+        x.lean(0, 12, 0);
+        x.image();
+        x.group(13, 2);
+        x.group(12, 2);
+        x.group(12, 0);
+        x.back();
+        x.rules(12, 9, 400, 100);
+        due("groups as they were: 13 is helped as 12 would be", x.among(1, 0, 0), 13);
+        x.lean(0, 12, 5);
+        due("and 12 as 13 is", x.among(1, 0, 0), 12);
         due("the tape is read", x.grammar(), NONE);
         due("its fault", x.fault(0), 1);
         x.back();
@@ -1207,6 +1307,8 @@ public final class PromiseTests {
         x.back();
         due("the latest image", x.about(4), 1);
         due("its text", x.harm(1, 1, 0), 9);
+
+        full();
 
         promise = 47;
         due("parts of a thing", x.about(32), 1);
