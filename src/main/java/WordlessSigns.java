@@ -329,8 +329,7 @@ public final class WordlessSigns {
         if (!looks.isDrawing(drawing) || !isSite(site) || !within(what, 0, 2)) {
             return NONE;
         }
-        changer.beginMade(drawing, site);
-        changer.tryMade(0, 0, 0);
+        changer.seekMade(drawing, site);
         if (changer.madeSet == NONE) {
             return NONE;
         }
@@ -371,18 +370,12 @@ public final class WordlessSigns {
         if (slot != NONE && lists.offered[slot] == 0) {
             return NONE;
         }
-        chooser.begin();
-        chooser.choose(0, FARTHEST);
+        chooser.seekChoice();
         return slot == NONE ? chooser.bestLeast : chooser.best[slot];
     }
 
     public int bars(int d) {
-        if (!within(d, 1, 999)) {
-            return NONE;
-        }
-        chooser.begin();
-        chooser.advance(0, d);
-        return chooser.furthest >= SLOTS ? NONE : chooser.furthest;
+        return within(d, 1, 999) ? chooser.barredSlot(d) : NONE;
     }
 
     public boolean group(int thing, int group) {
@@ -421,7 +414,7 @@ public final class WordlessSigns {
             return NONE;
         }
         hanger.prepare(site);
-        hanger.arrange(0, 0);
+        hanger.seekOrder();
         return i == NONE ? hanger.bestShares : lists.row[hanger.best[i]];
     }
 
@@ -1349,7 +1342,7 @@ public final class WordlessSigns {
         /** The row at 'to' is that at 'from' with one PART more to pair; falling sets let both be one row. */
         void widen(int code, int look, int[] rows, int from, int to) {
             int pairs = findGains(code, look);
-            for (int set = (1 << looks.sizes[look]) - 1; set >= 0; set--) {
+            for (int set = lastSubset(look); set >= 0; set--) {
                 int most = rows[from + set];
                 for (int i = 0; i < pairs; i++) {
                     if ((set & bits[i]) != 0) {
@@ -1360,7 +1353,10 @@ public final class WordlessSigns {
             }
         }
 
-        /** Pairs that gain nothing are left out: they are never better than dropping both. */
+        /**
+         * Pairs that gain nothing are left out: they are never better than dropping both. The codes are taken apart
+         * in place, for calls that lead here are as many as may stand open.
+         */
         private int findGains(int code, int look) {
             int found = 0;
             for (int i = 0; i < looks.sizes[look]; i++) {
@@ -1562,7 +1558,7 @@ public final class WordlessSigns {
             this.reader = reader;
         }
 
-        void beginMade(int drawing, int site) {
+        void seekMade(int drawing, int site) {
             this.drawing = drawing;
             reader.countFacts(drawing, site, codes, 0, 0);
             useful = 0;
@@ -1575,9 +1571,10 @@ public final class WordlessSigns {
                 rows[i] = 0;
             }
             madeSet = NONE;
+            tryMade(0, 0, 0);
         }
 
-        void tryMade(int set, int next, int count) {
+        private void tryMade(int set, int next, int count) {
             if (reader.isOfGrammar()) {
                 weighMade(set, count);
             }
@@ -1723,7 +1720,7 @@ public final class WordlessSigns {
         private final int[] chosen = new int[SLOTS];
         final int[] best = new int[SLOTS];
         int bestLeast;
-        int furthest;
+        private int furthest;
         int nearest;
         int nearOne;
         int nearOther;
@@ -1750,12 +1747,12 @@ public final class WordlessSigns {
             }
         }
 
-        void begin() {
+        void seekChoice() {
             bestLeast = NONE;
-            furthest = 0;
+            choose(0, FARTHEST);
         }
 
-        void choose(int slot, int least) {
+        private void choose(int slot, int least) {
             if (slot >= SLOTS) {
                 bestLeast = least;
                 copyAll(chosen, best);
@@ -1785,8 +1782,13 @@ public final class WordlessSigns {
             return least;
         }
 
-        /** How far choices that keep D apart come: the SLOT that bars them, or behind the last. */
-        void advance(int slot, int d) {
+        int barredSlot(int d) {
+            furthest = 0;
+            advance(0, d);
+            return furthest >= SLOTS ? NONE : furthest;
+        }
+
+        private void advance(int slot, int d) {
             furthest = Math.max(furthest, slot);
             if (slot >= SLOTS) {
                 return;
@@ -1827,7 +1829,6 @@ public final class WordlessSigns {
 
         void prepare(int site) {
             Arrays.fill(tooks, UNKNOWN);
-            bestShares = NONE;
             for (int place = 0; place < lists.hung; place++) {
                 reader.score(lists.row[place], site);
                 reader.regard(lists.row[place], site);
@@ -1865,7 +1866,12 @@ public final class WordlessSigns {
             return tooks[at];
         }
 
-        void arrange(int at, int used) {
+        void seekOrder() {
+            bestShares = NONE;
+            arrange(0, 0);
+        }
+
+        private void arrange(int at, int used) {
             if (at >= lists.hung) {
                 weighOrder();
                 return;
