@@ -192,10 +192,11 @@ public final class WordlessSigns {
     }
 
     public boolean land(int land, int share, int known) {
-        if (!isLand(land) || !within(share, 0, 99) || !within(known, 0, (1 << THINGS) - 1)) {
+        if (!isLand(land) || !within(share, 0, 99)) {
             return false;
         }
         world.shares[land] = share;
+        // No set is refused: bits that speak of no told THING, above bit 11 too, just don't count.
         world.knowns[land] = known & looks.toldThings();
         return true;
     }

@@ -151,6 +151,7 @@ public final class AgainstPlainModel {
         int share = of(4) == 0 ? 0 : near(0, 99);
         int all = (1 << plain.a.things.size()) - 1;
         int known = of(4) == 0 ? all : of(20) == 0 ? 4095 : near(0, all) | of(all + 1);
+        known = of(10) == 0 ? known | -1 << of(32) : known;
         check("land(" + land + ", " + share + ", " + known + ")", bit(signs.land(land, share, known)),
                 bit(plain.land(land, share, known)));
     }

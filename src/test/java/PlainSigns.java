@@ -199,11 +199,14 @@ final class PlainSigns {
     }
 
     boolean land(int land, int share, int known) {
-        if (!in(land, 0, 5) || !in(share, 0, 99) || !in(known, 0, 4095)) {
+        if (!in(land, 0, 5) || !in(share, 0, 99)) {
             return false;
         }
         a.share[land] = share;
-        a.known[land] = known & ((1 << a.things.size()) - 1);
+        a.known[land] = 0;
+        for (int i = 0; i < a.things.size(); i++) {
+            a.known[land] |= known & 1 << i;
+        }
         return true;
     }
 

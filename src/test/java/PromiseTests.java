@@ -214,16 +214,32 @@ public final class PromiseTests {
         due("six with six: each a row down", y.far(0, 1), 12);
     }
 
+    private static void bitsThatDoNotCount() {
+        for (int known : new int[] {-1, 4096, 1 << 31, Integer.MAX_VALUE, -4096, 4095}) {
+            due("no things, known " + known, new WordlessSigns().land(0, 0, known), true);
+            WordlessSigns x = corners(3);
+            x.rules(999, 4, 400, 100);
+            due("three things, known " + known, x.land(1, 7, known), true);
+            due("its share, known " + known, x.odds(0, 0, 2), 7);
+            due("taken, known " + known, x.taken(2, 1, 0), (known & 4) != 0 ? 14 : WordlessSigns.NONE);
+        }
+        WordlessSigns x = corners(2);
+        due("all but THING 12, and bits beyond", x.land(0, 1, -2), true);
+        x.rules(999, 4, 400, 100);
+        due("12 is not known there", x.taken(0, 0, 0), 13);
+    }
+
     private static void landsAndReading() {
         promise = 9;
         WordlessSigns x = corners(3);
         due("land(0, 99, 4095)", x.land(0, 99, 4095), true);
         due("land(5, 0, 0)", x.land(5, 0, 0), true);
-        int[][] others = {{-1, 0, 0}, {6, 0, 0}, {0, -1, 0}, {0, 100, 0}, {0, 0, -1}, {0, 0, 4096}};
+        int[][] others = {{-1, 0, 0}, {6, 0, 0}, {0, -1, 0}, {0, 100, 0}, {-1, -1, -1}};
         for (int[] o : others) {
             due("land of others", x.land(o[0], o[1], o[2]), false);
         }
         due("nothing changed", x.odds(0, 0, 2), 99);
+        bitsThatDoNotCount();
         x.look(true);
         due("a thing told later is not known there", x.far(0, 15), 5);
         x.rules(999, 4, 400, 100);
