@@ -168,7 +168,8 @@ public final class WordlessSigns {
             return false;
         }
         looks.meanings[drawing] = thing == NONE ? NONE : thing - DRAWINGS;
-        looks.denials[drawing] = not;
+        // The not is said of a THING: of none there is nothing to deny.
+        looks.denials[drawing] = not && thing != NONE;
         return true;
     }
 

@@ -156,7 +156,7 @@ final class PlainSigns {
             return false;
         }
         at(d).means = thing;
-        at(d).not = not;
+        at(d).not = thing != NONE && not;
         return true;
     }
 

@@ -571,6 +571,7 @@ public final class PromiseTests {
         x.by(0);
         due("meant not, read so", x.harm(0, 0, 0), 1);
         x.by(1);
+        meansNoneNotTurned();
         x.means(1, 13, false);
         due("others", x.harm(2, 0, 0), NONE);
         due("others", x.harm(0, 6, 0), NONE);
@@ -593,6 +594,26 @@ public final class PromiseTests {
         }
         readBy(x, "harm 9999*9999;");
         due("the greatest", x.odds(0, 0, 0), 594000000);
+    }
+
+    /** Of a DRAWING that MEANS none there is no not, but THE GRAMMAR's. */
+    private static void meansNoneNotTurned() {
+        WordlessSigns x = corners(1);
+        x.land(0, 10, 1);
+        readBy(x, "harm 3+turned;");
+        x.means(0, NONE, true);
+        due("means none: nothing is turned", x.harm(0, 0, 0), 3);
+        due("means none, taken for nothing", x.harm(0, 1, 0), 3);
+        x.means(0, 12, true);
+        due("means not it: turned", x.harm(0, 0, 0), 4);
+        x.means(0, NONE, true);
+        due("means none again: as at first", x.harm(0, 0, 0), 3);
+        due("means none: shares and harm", x.odds(0, 0, 0), 30);
+        due("means none: for anybody", x.anybody(0, 0, 1, 0), 3);
+        readBy(x, "not 1=1;harm 3+turned;");
+        due("means none, the grammar says not", x.harm(0, 0, 0), 4);
+        x.means(0, NONE, false);
+        due("means none, the grammar says not", x.harm(0, 0, 0), 4);
     }
 
     private static void made() {
