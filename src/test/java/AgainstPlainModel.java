@@ -174,7 +174,7 @@ public final class AgainstPlainModel {
                 check("colour(" + l + ", " + c + ")", bit(signs.colour(l, c)), bit(plain.colour(l, c)));
             }
             case 4, 5 -> {
-                boolean not = of(4) == 0;
+                boolean not = of(t == -1 ? 2 : 4) == 0;
                 check("means(" + d + ", " + t + ", " + not + ")", bit(signs.means(d, t, not)), bit(plain.means(d, t, not)));
             }
             case 6 -> {
