@@ -47,7 +47,12 @@ final class PromisesOfAnswers extends Sentences {
         due("13 is known in 5", x.knows(5, 0, 13), 2);
         due("one that can't be is kept all the same", x.answer(5, 5, 1, NONE), 3);
         due("there is no mind", x.minds(5, 0, NONE), 0);
-        due("about", x.about(7), 3);
+        x.lean(5, 13, 9);
+        x.answer(4, 5, 0, 13);
+        due("at its site 13 is nearer, so 12 may be known", x.knows(4, 0, 12), 1);
+        x.answer(3, 4, 0, 13);
+        due("at another it is not", x.knows(3, 0, 12), 0);
+        due("about", x.about(7), 5);
     }
 
     @Says(promise = 40, value = "NONE for others")
@@ -275,6 +280,7 @@ final class PromisesOfAnswers extends Sentences {
         due("999 is above what can be", x.mended(0, 1, 999, 3), NONE);
         x.part(1, 3, 0, 0);
         due("999 can be", x.mended(0, 1, 999, 3), 1089);
+        due("1000 is too much to ask, though it can be", x.mended(0, 1, 1000, 3), NONE);
     }
 
     @Says(promise = 45, value = "THE IMAGE is as all is now: the clock")
@@ -304,6 +310,7 @@ final class PromisesOfAnswers extends Sentences {
             s.append(x.says(d, 0)).append(x.says(d, 1)).append(x.choice(d)).append(x.among(d, 0, 0)).append(' ');
             s.append(x.worn(d, 0, 1, 1)).append(' ').append(x.made(d, 0, 0)).append(' ').append(x.taken(d, 1, 1)).append(' ');
             s.append(x.minds(d, 0, NONE)).append(' ').append(x.minds(d, 999, NONE)).append(' ').append(x.right(d, 0, 0));
+            s.append(' ').append(x.far(2, d)).append(' ').append(x.far(2, 12 + d)).append(' ');
         }
         return s.append(x.odds(0, 0, 2)).append(x.order(0, NONE)).append(x.best(7, 0, 1)).toString();
     }
@@ -311,6 +318,10 @@ final class PromisesOfAnswers extends Sentences {
     private static WordlessSigns rich() {
         WordlessSigns x = corners(3);
         x.means(2, 14, true);
+        x.clear(2);
+        x.part(2, 1, 6, 1);
+        x.part(1, 2, 0, 0);
+        x.colour(14, 2);
         x.land(0, 10, 7);
         x.land(1, 20, 6);
         x.lean(1, 13, 5);
@@ -333,7 +344,7 @@ final class PromisesOfAnswers extends Sentences {
     @Says(promise = 46, value = "BACK to THE IMAGE (it stays): the clock")
     static void backFromEachChange() {
         String want = all(rich());
-        for (int change = 0; change < 22; change++) {
+        for (int change = 0; change < 29; change++) {
             WordlessSigns x = rich();
             x.image();
             for (int i = 0; i < 2; i++) {
@@ -368,6 +379,17 @@ final class PromisesOfAnswers extends Sentences {
             case 18 -> x.teach(0, 1);
             case 19 -> x.weeks(50);
             case 20 -> x.days(1);
+            case 21 -> {
+                x.unhang();
+                x.hang(2);
+                x.hang(2);
+            }
+            case 22 -> x.weights(2, 9, 5, 3);
+            case 23 -> x.weights(2, 1, 5, 9);
+            case 24 -> x.weights(2, 1, 9, 3);
+            case 25 -> x.rules(12, 3, 300, 90);
+            case 26 -> x.rules(12, 5, 100, 90);
+            case 27 -> x.rules(12, 5, 300, 300);
             default -> x.answer(0, 0, 1, 13);
         }
     }

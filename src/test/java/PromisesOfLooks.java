@@ -177,10 +177,8 @@ final class PromisesOfLooks extends Sentences {
         due("means 12", x.means(0, 12, false), true);
         due("right again", x.right(0, 0, 0), 1);
         due("not none is none", x.means(0, NONE, true), true);
-        readBy(x, "harm 5+turned+10*means;");
-        due("there is no not", x.harm(0, 0, 0), 0);
-        readBy(x, "harm 5+turned;");
-        due("there is no not", x.harm(0, 0, 0), 5);
+        readBy(x, "harm 50+turned+10*means;");
+        due("there is no not, and means is -1", x.harm(0, 0, 0), 40);
     }
 
     @Says(promise = 6, value = "False for others")

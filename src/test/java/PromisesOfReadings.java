@@ -93,6 +93,16 @@ final class PromisesOfReadings extends Sentences {
         due("nor can it be told", x.by(0), false);
         readBy(x, "must 1=1;");
         due("nothing of it is left", x.harm(0, 0, 0), 1);
+        read(x, "not 1=1;must 1=2;foo");
+        readBy(x, "harm 3;");
+        due("no not of it is left", x.says(0, 0), 0);
+        due("no must of it is left", x.says(0, 1), 1);
+        for (int i = 0; i < 5; i++) {
+            read(x, "harm 1" + "+1".repeat(147));
+        }
+        readBy(x, "harm 1" + "+1".repeat(146) + ";");
+        due("long ones take no room of the next", x.harm(0, 0, 0), 147);
+        x.by(0);
         due("a fault later", read(x, "harm"), NONE);
         due("THE GRAMMAR stays", x.about(4), 0);
     }
@@ -349,12 +359,12 @@ final class PromisesOfReadings extends Sentences {
     static void stockThatIsThere() {
         WordlessSigns x = new WordlessSigns();
         for (int i = 0; i < 9; i++) {
-            x.stock(i % 5, i, i % 4);
+            x.stock(4 - i % 5, 8 - i, 3 - i % 4);
         }
         for (int i = 0; i < 9; i++) {
-            due("the " + i + "-th again", x.stock(i % 5, i, i % 4), NONE);
+            due("the " + i + "-th again", x.stock(4 - i % 5, 8 - i, 3 - i % 4), NONE);
         }
-        due("unlike in its way alone", x.stock(0, 0, 1), 10);
+        due("unlike in its way alone", x.stock(4, 8, 2), 10);
     }
 
     @Says(promise = 22, value = "or if there are 10")

@@ -289,6 +289,16 @@ final class TermsOfChoices extends Sentences {
         x.rules(12, 5, 400, 100);
         hang(x, 2, 0);
         due("a neighbour taken for nothing helps none", x.among(1, 1, 0), NONE);
+        for (int group = 1; group < 6; group++) {
+            WordlessSigns y = corners(2);
+            y.land(0, 1, 3);
+            y.rules(4, 99, 400, 100);
+            y.clear(1);
+            y.group(13, group);
+            hang(y, 1, 0, 1);
+            due("1 is nothing", y.among(0, 0, 0), NONE);
+            due("nor does it help a thing of group " + group, y.among(1, 0, 0), 12);
+        }
     }
 
     @Says("GROUP (told of THINGS, 0 .. 5; at first 0: no GROUP)")
@@ -459,9 +469,11 @@ final class TermsOfChoices extends Sentences {
         }
         WordlessSigns x = told(1, 0);
         x.teach(0, 0);
+        x.teach(0, 0);
+        x.teach(0, 0);
         x.weeks(1);
         x.rules(12, 4, 1, 100);
-        due("a tenth at first", x.teach(0, 0), 361);
+        due("1000 by the fade at first", x.teach(0, 0), 901);
     }
 
     @Says("From 500 on it is RIGHT whatever it is TAKEN for")
@@ -497,6 +509,12 @@ final class TermsOfChoices extends Sentences {
         due("a hundred for 50 weeks", x.tellings(0, 0, 50), 100);
         x.rules(12, 4, 4, 0);
         due("a hundred are 400", x.tellings(0, 0, 0), NONE);
+        x.rules(12, 4, 96, 0);
+        x.teach(0, 1);
+        x.rules(12, 4, 4, 0);
+        due("101 would do", x.tellings(0, 1, 0), NONE);
+        x.teach(0, 1);
+        due("a hundred", x.tellings(0, 1, 0), 100);
         x.rules(12, 4, 500, 0);
         due("one", x.tellings(0, 0, 0), 1);
         x.rules(12, 4, 499, 0);

@@ -93,6 +93,8 @@ final class TermsOfGrammars extends Sentences {
         due("the tenth counts", x.says(0, 1), 0);
         readBy(x, "not 1=2;".repeat(9) + "not 1=1;");
         due("the tenth counts", x.says(0, 0), 1);
+        readBy(x, "must 1=1;".repeat(10));
+        due("ten of them", x.says(0, 1), 1);
         readBy(x, "not 1=2;".repeat(9) + "harm 7;");
         due("the tenth counts", x.harm(0, 0, 0), 7);
     }
@@ -145,6 +147,12 @@ final class TermsOfGrammars extends Sentences {
                 boolean[] want = {2 < right, 2 <= right, 2 > right, 2 >= right, 2 == right, 2 != right};
                 ask("2" + signs[i] + right, want[i]);
                 ask("-" + right + signs[i] + "-2", want[i]);
+            }
+        }
+        String[] so = {"1<2", "2<=2", "2>1", "2>=2", "2=2", "1#2"};
+        for (String one : so) {
+            for (String other : so) {
+                ask(one + " and " + other, true);
             }
         }
         ask("(1=1)", true);
