@@ -58,6 +58,21 @@ final class PromisesOfReadings extends Sentences {
         due("and is read", x.harm(0, 0, 0), 5);
     }
 
+    @Says(promise = 13, value = "The tape has its first n bytes alone")
+    static void whatWasCutOffIsNotRead() {
+        String[] texts = {"harm took", "harm 9999", "not 1<", "harm 1;"};
+        String[] cut = {"s;", "9;", "=2;", "harm 2;"};
+        int[] places = {9, 9, 6, NONE};
+        for (int i = 0; i < texts.length; i++) {
+            WordlessSigns x = new WordlessSigns();
+            feed(x, texts[i] + cut[i]);
+            x.end(texts[i].length());
+            x.grammar();
+            due("fault of " + texts[i], x.fault(0), places[i] == NONE ? 0 : 1);
+            due("its place", x.fault(1), places[i]);
+        }
+    }
+
     @Says(promise = 13, value = "NONE, and nothing is done, if it has not so many, or n is below 0")
     static void endBeyondTheTape() {
         WordlessSigns x = new WordlessSigns();
@@ -97,6 +112,15 @@ final class PromisesOfReadings extends Sentences {
         readBy(x, "harm 3;");
         due("no not of it is left", x.says(0, 0), 0);
         due("no must of it is left", x.says(0, 1), 1);
+        read(x, "not ((((((((1=1 or 1+2*3");
+        read(x, "harm --------");
+        x.back();
+        x.look(false);
+        readBy(x, "must ((((((((1=1))))))));");
+        due("what was open is shut", x.says(0, 1), 1);
+        read(x, "harm 1+2*--------");
+        readBy(x, "harm --------5;");
+        due("no minus of it is left", x.harm(0, 0, 0), 5);
         for (int i = 0; i < 5; i++) {
             read(x, "harm 1" + "+1".repeat(147));
         }

@@ -563,6 +563,10 @@ final class TermsOfChoices extends Sentences {
         readBy(x, "harm 0;");
         due("no harm at all: the first set", x.anybody(0, 0, 2, 1), 3);
         due("no harm at all", x.anybody(0, 0, 2, 0), 0);
+        WordlessSigns y = told(1, 12);
+        readBy(y, "harm took;");
+        due("of 12 the last", y.anybody(0, 0, 1, 0), 11);
+        due("of 12 the last", y.anybody(0, 0, 1, 1), 2048);
         x.by(NONE);
         for (int land = 0; land < 6; land++) {
             x.land(land, 99, 7);

@@ -155,13 +155,20 @@ final class TermsOfGrammars extends Sentences {
                 ask(one + " and " + other, true);
             }
         }
+        // The sums at both sides are whole before they are compared.
+        for (String no : new String[] {"3<1+1", "3<=1+1", "1>1+1", "1>=1+1", "1=1+1", "2#1+1", "1+1#2", "2*2#4", "4#2*2"}) {
+            ask(no, false);
+        }
         ask("(1=1)", true);
+        ask("1=2 or (1=1)", true);
+        ask("1=1 and ((1=2 or 1=1) and (1=1))", true);
         ask("(1=1 or 1=1) and 1=2", false);
         ask("1=2 and (1=1 or 1=1)", false);
         fault("not (1=1;", 1, 8);
         fault("not 1=1);", 1, 7);
         fault("not ();", 1, 5);
         fault("not (1)=1;", 1, 6);
+        fault("not -(1=1);", 1, 5);
         fault("not 1=(1);", 1, 6);
         fault("not 1=1=1;", 1, 7);
         fault("not (1=1)=1;", 1, 9);
@@ -366,6 +373,9 @@ final class TermsOfGrammars extends Sentences {
             fault("harm 1" + sign + ";", 1, 6);
         }
         fault("harm foo;", 1, 5);
+        fault("harm -foo;", 1, 6);
+        fault("not (foo=1);", 1, 5);
+        fault("not (!=1);", 1, 5);
         fault("harm or;", 1, 5);
         fault("not line=1;", 1, 4);
         fault("not no=1;", 1, 4);
