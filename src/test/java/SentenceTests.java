@@ -17,7 +17,7 @@ import java.util.Map;
 public final class SentenceTests {
     private static final List<Class<?>> TESTS = List.of(TermsOfLooks.class, TermsOfGrammars.class,
             TermsOfChoices.class, TermsOfAnswers.class, PromisesOfLooks.class, PromisesOfReadings.class,
-            PromisesOfChoices.class, PromisesOfAnswers.class);
+            PromisesOfChoices.class, PromisesOfAnswers.class, StaleAndFull.class);
 
     public static void main(String[] args) throws IOException, IllegalAccessException {
         Map<Integer, List<String>> sentences = sentencesOfTheDocument();
