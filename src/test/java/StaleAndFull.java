@@ -197,4 +197,60 @@ final class StaleAndFull extends Sentences {
         x.answer(1, 0, 0, NONE);
         due("nothing: all are within the limit", x.minds(1, 0, NONE), 1);
     }
+
+    @Says("BEST ORDER of a row (6 at most): that by which SHARES of RIGHT ones over all together are greatest")
+    static void orderTellsPairsOfGroupsApart() {
+        WordlessSigns x = told(5, 3);
+        int[] kinds = {0, 1, 2};
+        for (int i = 0; i < 3; i++) {
+            x.part(12 + i, kinds[i], 0, 0);
+            x.group(12 + i, i + 1);
+        }
+        int[] meant = {13, 12, 14, 13, 13};
+        for (int i = 0; i < 5; i++) {
+            if (i > 0) {
+                x.part(i, kinds[meant[i] - 12], 0, 0);
+            }
+            x.means(i, meant[i], false);
+            x.hang(i);
+        }
+        x.lean(0, 12, 1);
+        x.lean(0, 14, 1);
+        x.land(0, 1, 7);
+        // 0 is right only where group 2 alone helps; groups 1 and 3 beside it add up to the same as 2 and 2.
+        due("all five", x.order(0, NONE), 5);
+        int[] best = {1, 2, 3, 0, 4};
+        for (int i = 0; i < 5; i++) {
+            due("the " + i + "-th", x.order(0, i), best[i]);
+        }
+    }
+
+    @Says("BEST ORDER of a row (6 at most): that by which SHARES of RIGHT ones over all together are greatest")
+    static void orderTellsLandsApart() {
+        WordlessSigns x = told(2, 2);
+        x.part(12, 0, 0, 0);
+        x.part(13, 1, 0, 0);
+        x.group(12, 1);
+        x.part(0, 0, 0, 0);
+        x.means(0, 12, false);
+        x.means(1, 13, false);
+        x.land(0, 10, 3);
+        x.land(1, 1, 2);
+        x.hang(0);
+        x.hang(1);
+        due("0 in land 0 and 1 in land 1", x.order(0, NONE), 11);
+    }
+
+    @Says(promise = 15, value = "Of the latest text that was read: 0 its FAULT (0 without), 1 its place (NONE without)")
+    static void wordsAtTheLastByteOfAFullTape() {
+        String[] words = {"n", "no", "li", "line", "lines", "not", "an", "harm", "site"};
+        for (String word : words) {
+            boolean starts = word.equals("not") || word.equals("harm");
+            fault(" ".repeat(300 - word.length()) + word, 1, starts ? 300 : 300 - word.length());
+            String clause = "harm 1+";
+            boolean name = word.equals("lines") || word.equals("site");
+            String text = clause + " ".repeat(300 - clause.length() - word.length()) + word;
+            fault(text, 1, name ? 300 : 300 - word.length());
+        }
+    }
 }
