@@ -1541,7 +1541,8 @@ public final class WordlessSigns {
         private final Nearness nearness;
         private final Reader reader;
         private final int[] codes = new int[PARTS];
-        // Rows of gains for each THING, one layer for each count of PARTS chosen so far.
+        // Rows of gains for each THING, one layer for each count of PARTS chosen so far; by none nothing is gained, so
+        // the first layer stays 0.
         private final int[] rows = new int[(PARTS + 1) * THINGS * SUBSETS];
         private int drawing;
         private int useful;
@@ -1568,9 +1569,6 @@ public final class WordlessSigns {
                 if (world.shares[land] > 0) {
                     useful |= world.knowns[land];
                 }
-            }
-            for (int i = 0; i < THINGS * SUBSETS; i++) {
-                rows[i] = 0;
             }
             madeSet = NONE;
             tryMade(0, 0, 0);
