@@ -253,4 +253,12 @@ final class StaleAndFull extends Sentences {
             fault(text, 1, name ? 300 : 300 - word.length());
         }
     }
+
+    @Says(promise = 14, value = "The tape (empty then) is a GRAMMAR: its number")
+    static void nothingIsLeftOfAFaultyText() {
+        WordlessSigns x = misread();
+        due("a minus, then a fault", read(x, "harm -5 !"), NONE);
+        readBy(x, "harm 5;");
+        due("no minus behind 5", x.harm(0, 4, 2), 5);
+    }
 }
